@@ -736,7 +736,9 @@ public final class ConventionInference {
         /** Finds the depth of the stack at each node; answers whether the function is balanced. */
         private boolean measure(int function) {
             int base = function * NODES;
-            Arrays.fill(depths, base, base + NODES, NOT_REACHED);
+            for (int node = 0; node < NODES; node++) {
+                depths[base + node] = NOT_REACHED;
+            }
             depths[base + code.entry(function)] = 0;
             for (int i = 0; i < code.counts[function]; i++) {
                 if (depths[base + i] != NOT_REACHED) {
@@ -776,8 +778,12 @@ public final class ConventionInference {
                 if (flow.reaches(function, i)) {
                     System.arraycopy(known, i * PLACES, row, 0, PLACES);
                     step(function, i);
-                    merge(code.next(function, i));
-                    merge(code.other(function, i));
+                    int next = code.next(function, i);
+                    int other = code.other(function, i);
+                    merge(next);
+                    if (other != next) {
+                        merge(other);
+                    }
                 }
             }
             int own = 0;

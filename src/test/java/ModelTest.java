@@ -18,7 +18,7 @@ public final class ModelTest {
         int filled = 1 + random.nextInt(8);
         for (int f = 0; f < 8; f++) {
             boolean isEmpty = f >= filled && random.nextInt(4) > 0;
-            texts[f] = isEmpty ? "" : randomBody(random, 1 + random.nextInt(13), filled);
+            texts[f] = isEmpty ? "" : randomBody(random, 1 + random.nextInt(14), filled);
         }
         return texts;
     }

@@ -1,16 +1,11 @@
-import java.io.IOException;
 import java.lang.reflect.Constructor;
-import java.lang.reflect.Field;
 import java.lang.reflect.Method;
 import java.lang.reflect.Modifier;
-import java.nio.charset.StandardCharsets;
-import java.nio.file.Files;
-import java.nio.file.Path;
 import java.util.ArrayList;
 import java.util.List;
 import java.util.TreeSet;
 
-/** The public face, and what of LANGUAGE.md can be seen from outside or in the signs of the source. */
+/** The public face: the constructor and the methods of the document, with the exceptions that they declare. */
 public final class FaceTest {
     private static final String[] FACE = {
         "int appendCharacter(int) IllegalArgumentException IllegalStateException",
@@ -51,11 +46,8 @@ public final class FaceTest {
         "void save()",
         "void restore() IllegalStateException"};
 
-    public static void main(String[] args) throws IOException {
+    public static void main(String[] args) {
         face();
-        hiddenMembers();
-        nestedClasses();
-        source();
         Check.finish();
     }
 
@@ -85,45 +77,5 @@ public final class FaceTest {
             text.append(' ').append(type.getSimpleName());
         }
         return text.toString();
-    }
-
-    private static void hiddenMembers() {
-        for (Field field : ConventionInference.class.getDeclaredFields()) {
-            Check.same(field + " is private", Modifier.isPrivate(field.getModifiers()), true);
-        }
-    }
-
-    private static void nestedClasses() {
-        TreeSet<String> publicNames = new TreeSet<>();
-        for (Method method : ConventionInference.class.getDeclaredMethods()) {
-            if (Modifier.isPublic(method.getModifiers())) {
-                publicNames.add(method.getName());
-            }
-        }
-        for (Class<?> nested : ConventionInference.class.getDeclaredClasses()) {
-            Check.same(nested + " is static", Modifier.isStatic(nested.getModifiers()), true);
-            Check.same(nested + " is not public", Modifier.isPublic(nested.getModifiers()), false);
-            for (Field field : nested.getDeclaredFields()) {
-                boolean isFinal = Modifier.isFinal(field.getModifiers());
-                Check.same(field + " is final if static", !Modifier.isStatic(field.getModifiers()) || isFinal, true);
-            }
-            for (Method method : nested.getDeclaredMethods()) {
-                Check.same(method + " has a name of its own", publicNames.contains(method.getName()), false);
-            }
-        }
-    }
-
-    private static void source() throws IOException {
-        Path path = Path.of("src/main/java/ConventionInference.java");
-        String source = Files.readString(path, StandardCharsets.US_ASCII);
-        for (String word : new String[] {"package ", "->", "::", "try ", "catch", "finally", "synchronized", "assert ",
-            "Exact(", "System.out", "static {", "\t"}) {
-            Check.same("the source has " + word, source.contains(word), false);
-        }
-        for (String line : source.split("\n")) {
-            boolean isAllowed = !line.startsWith("import ") || line.equals("import java.util.NoSuchElementException;")
-                    || line.equals("import java.util.Arrays;");
-            Check.same(line, isAllowed, true);
-        }
     }
 }

@@ -229,7 +229,7 @@ public final class ConventionInference {
     public int liveBehind(int site) throws IndexOutOfBoundsException {
         inferFacts();
         checkSite(site);
-        return behindSite(site);
+        return liveness.behind(sites.callers[site], sites.indices[site]);
     }
 
     public int problems() {
@@ -396,13 +396,10 @@ public final class ConventionInference {
         }
     }
 
-    private int behindSite(int site) {
-        return liveness.behind(sites.callers[site], sites.indices[site]);
-    }
-
     private int lostAt(int site) {
         int callee = sites.callees[site];
-        return behindSite(site) & values.clobbered(callee) & ~definitions.sure[callee];
+        int behind = liveness.behind(sites.callers[site], sites.indices[site]);
+        return behind & values.clobbered(callee) & ~definitions.sure[callee];
     }
 
     private boolean hasProblem(int site) {
@@ -727,8 +724,10 @@ public final class ConventionInference {
                 isChanged = false;
                 for (int function = 0; function < FUNCTIONS; function++) {
                     int now = balanced[function] ? keptBy(function) : 0;
-                    isChanged |= now != kept[function];
-                    kept[function] = now;
+                    if (now != kept[function]) {
+                        kept[function] = now;
+                        isChanged = true;
+                    }
                 }
             }
         }
@@ -856,8 +855,10 @@ public final class ConventionInference {
                 isChanged = false;
                 for (int function = 0; function < FUNCTIONS; function++) {
                     int now = definedBy(function);
-                    isChanged |= now != sure[function];
-                    sure[function] = now;
+                    if (now != sure[function]) {
+                        sure[function] = now;
+                        isChanged = true;
+                    }
                 }
             }
         }
@@ -918,7 +919,9 @@ public final class ConventionInference {
             for (int round = 0; isChanged && round <= 2 * FUNCTIONS * REGISTERS; round++) {
                 isChanged = false;
                 for (int function = 0; function < FUNCTIONS; function++) {
-                    isChanged |= trace(function);
+                    if (trace(function)) {
+                        isChanged = true;
+                    }
                 }
             }
         }
@@ -930,13 +933,17 @@ public final class ConventionInference {
             for (int i = code.counts[function] - 1; i >= 0; i--) {
                 if (flow.reaches(function, i)) {
                     int behind = behind(function, i);
-                    isChanged |= code.isCall(function, i) && ask(code.numberAt(function, i), behind);
+                    if (code.isCall(function, i) && ask(code.numberAt(function, i), behind)) {
+                        isChanged = true;
+                    }
                     live[function * NODES + i] = readAt(function, i) | (behind & ~writtenAt(function, i));
                 }
             }
             int now = before(function, code.entry(function));
-            isChanged |= now != taken[function];
-            taken[function] = now;
+            if (now != taken[function]) {
+                taken[function] = now;
+                isChanged = true;
+            }
             return isChanged;
         }
 

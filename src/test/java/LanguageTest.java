@@ -80,6 +80,7 @@ public final class LanguageTest {
             Check.same("the source has " + part, source.whole.contains(part), false);
         }
         Check.same("texts joined by +", source.find("\" *\\+|\\+ *\""), List.of());
+        Check.same("masks on booleans", source.find("\\b(is|has|was)[A-Z][A-Za-z]* [|&^]=?[^|&]"), List.of());
         for (String line : source.find("(?m)^import .*$")) {
             boolean isAllowed = Set.of("import java.util.Arrays;", "import java.util.NoSuchElementException;").contains(line);
             Check.same(line + " is allowed", isAllowed, true);
